@@ -18,6 +18,7 @@ public final class Releaseledger {
     private static final int MOST_LETTERS = 5;
     private static final int ALPHABET = 26;
     private static final int LETTER_KINDS = 52;
+    private static final int WITHOUT_SIGN_BIT = 0x7fffffff;
 
     private static final int ROWS = 3;
     private static final int NUMBER_ROW = 0;
@@ -441,30 +442,22 @@ public final class Releaseledger {
         return orders[one * SLOTS + other];
     }
 
+    /** What is put behind is looked at only where the longer text can be told. */
     private boolean isTrueOfOne(Version version) {
         parseAnew(version);
-        if (!spare.told.isLike(version.told) || spare.orderTo(version) != 0) {
-            return false;
+        boolean holds = spare.told.isLike(version.told) && spare.orderTo(version) == 0;
+        boolean hasRoom = version.told.length() + 2 <= MOST_SIGNS;
+        if (hasRoom) {
+            parseWithNumberBehind(version, POINT, 0);
+            holds = holds && spare.orderTo(version) == 0;
+            parseWithNumberBehind(version, POINT, 1);
+            holds = holds && spare.orderTo(version) > 0;
         }
-        return isTrueWithNumberBehind(version, 0, 0)
-                && isTrueWithNumberBehind(version, 1, 1)
-                && isTrueWithEarlyRowBehind(version);
-    }
-
-    private boolean isTrueWithNumberBehind(Version version, int number, int order) {
-        if (1 + digitsOf(number) > MOST_SIGNS - version.told.length()) {
-            return true;
+        if (hasRoom && !version.hasRow(EARLY_ROW)) {
+            parseWithLetterBehind(version, 'a');
+            holds = holds && spare.orderTo(version) < 0;
         }
-        parseWithNumberBehind(version, POINT, number);
-        return spare.orderTo(version) == order;
-    }
-
-    private boolean isTrueWithEarlyRowBehind(Version version) {
-        if (version.hasRow(EARLY_ROW) || 2 > MOST_SIGNS - version.told.length()) {
-            return true;
-        }
-        parseWithLetterBehind(version, 'a');
-        return spare.orderTo(version) < 0;
+        return holds;
     }
 
     private boolean isTrueOfTwo(int one, int other) throws IndexOutOfBoundsException {
@@ -551,7 +544,7 @@ public final class Releaseledger {
         }
 
         void putWord(int code, int letters) {
-            int rest = code & Integer.MAX_VALUE;
+            int rest = code & WITHOUT_SIGN_BIT;
             for (int letter = 0; letter < letters; letter++) {
                 put(letterOf(rest % LETTER_KINDS));
                 rest /= LETTER_KINDS;
@@ -600,14 +593,13 @@ public final class Releaseledger {
         }
     }
 
-    /** A text and its tokens, those of the number row first, then the early row's, then the build row's. */
+    /** A text and its tokens, row by row. */
     private static final class Version {
         private final Text told = new Text();
-        private final int[] starts = new int[MOST_SIGNS];
+        private final int[][] starts = new int[ROWS][MOST_SIGNS];
         /** The size of a number; of a word -1 less how many letters it has. */
-        private final int[] sizes = new int[MOST_SIGNS];
-        private final int[] rowCounts = new int[ROWS];
-        private int count = 0;
+        private final int[][] sizes = new int[ROWS][MOST_SIGNS];
+        private final int[] counts = new int[ROWS];
 
         Version() {
             told.put('0');
@@ -620,7 +612,9 @@ public final class Releaseledger {
         }
 
         void readTokens() {
-            forgetTokens();
+            for (int row = 0; row < ROWS; row++) {
+                counts[row] = 0;
+            }
             int row = NUMBER_ROW;
             int kindBefore = JOINT;
             for (int place = 0; place < told.length(); place++) {
@@ -632,16 +626,9 @@ public final class Releaseledger {
                     if (kind != kindBefore) {
                         openToken(row, kind, place);
                     }
-                    growToken(kind, sign);
+                    growToken(row, kind, sign);
                 }
                 kindBefore = kind;
-            }
-        }
-
-        private void forgetTokens() {
-            count = 0;
-            for (int row = 0; row < ROWS; row++) {
-                rowCounts[row] = 0;
             }
         }
 
@@ -656,38 +643,49 @@ public final class Releaseledger {
         }
 
         private void openToken(int row, int kind, int start) {
-            if (count < MOST_SIGNS && row >= 0 && row < ROWS) {
-                starts[count] = start;
-                sizes[count] = kind == DIGIT ? 0 : -1;
-                count++;
-                rowCounts[row]++;
+            int place = tokensIn(row);
+            if (row >= 0 && row < ROWS && place < MOST_SIGNS) {
+                starts[row][place] = start;
+                sizes[row][place] = kind == DIGIT ? 0 : -1;
+                counts[row]++;
             }
         }
 
-        private void growToken(int kind, char sign) {
-            int last = count - 1;
-            if (last >= 0 && last < MOST_SIGNS) {
-                sizes[last] = kind == DIGIT ? 10 * sizes[last] + (sign - '0') : sizes[last] - 1;
+        private void growToken(int row, int kind, char sign) {
+            int last = tokensIn(row) - 1;
+            if (hasToken(row, last)) {
+                int size = sizes[row][last];
+                sizes[row][last] = kind == DIGIT ? 10 * size + (sign - '0') : size - 1;
             }
         }
 
         int tokensIn(int row) {
-            return row >= 0 && row < ROWS ? rowCounts[row] : 0;
+            return row >= 0 && row < ROWS ? counts[row] : 0;
         }
 
         boolean hasRow(int row) {
             return tokensIn(row) > 0;
         }
 
+        private boolean hasToken(int row, int place) {
+            return row >= 0 && row < ROWS && place >= 0 && place < counts[row];
+        }
+
         int allTokens() {
-            return count;
+            int all = 0;
+            for (int row = 0; row < ROWS; row++) {
+                all += counts[row];
+            }
+            return all;
         }
 
         int words() {
             int words = 0;
-            for (int token = 0; token < count; token++) {
-                if (sizes[token] < 0) {
-                    words++;
+            for (int row = 0; row < ROWS; row++) {
+                for (int place = 0; place < counts[row]; place++) {
+                    if (sizes[row][place] < 0) {
+                        words++;
+                    }
                 }
             }
             return words;
@@ -695,24 +693,21 @@ public final class Releaseledger {
 
         /** Behind the end of a row this is 0: as the rows are ordered, zeros there count for nothing. */
         int sizeAt(int row, int place) {
-            return place >= 0 && place < tokensIn(row) ? sizes[indexOf(row, place)] : 0;
+            return hasToken(row, place) ? sizes[row][place] : 0;
         }
 
         private int startAt(int row, int place) {
-            return place >= 0 && place < tokensIn(row) ? starts[indexOf(row, place)] : 0;
-        }
-
-        private int indexOf(int row, int place) {
-            int index = place;
-            for (int before = 0; before < row; before++) {
-                index += tokensIn(before);
-            }
-            return index;
+            return hasToken(row, place) ? starts[row][place] : 0;
         }
 
         int orderTo(Version other) {
-            int row = tellingRow(other);
-            return row == NO_ROW ? 0 : orderOfRow(row, other);
+            for (int row = 0; row < ROWS; row++) {
+                int order = orderOfRow(row, other);
+                if (order != 0) {
+                    return order;
+                }
+            }
+            return 0;
         }
 
         int tellingRow(Version other) {
@@ -730,7 +725,9 @@ public final class Releaseledger {
             }
             int longest = Math.max(tokensIn(row), other.tokensIn(row));
             for (int place = 0; place < longest; place++) {
-                int order = orderOfTokens(row, place, other);
+                int mine = sizeAt(row, place);
+                int others = other.sizeAt(row, place);
+                int order = mine < 0 && others < 0 ? orderOfWords(row, place, other) : orderOfSizes(mine, others);
                 if (order != 0) {
                     return order;
                 }
@@ -738,16 +735,12 @@ public final class Releaseledger {
             return 0;
         }
 
-        private int orderOfTokens(int row, int place, Version other) {
-            int mine = sizeAt(row, place);
-            int others = other.sizeAt(row, place);
-            if (mine >= 0 && others >= 0) {
-                return orderOfNumbers(mine, others);
+        /** At least one of them is a number's, and a number is ahead of a word. */
+        private static int orderOfSizes(int mine, int others) {
+            if (mine < 0) {
+                return 1;
             }
-            if (mine < 0 && others < 0) {
-                return orderOfWords(row, place, other);
-            }
-            return mine >= 0 ? -1 : 1;
+            return others < 0 ? -1 : orderOfNumbers(mine, others);
         }
 
         private int orderOfWords(int row, int place, Version other) {
