@@ -160,7 +160,8 @@ final class VersionsTest {
         tokensAre(ledger, 0, 2, -2, 0, -6, 40);
         tokensAre(ledger, 1, 0, 1, -2, 1, -2);
         tokensAre(ledger, 2, 0, 999999);
-        tokensAre(ledger, 2, 1, -2, 999999999, 1, -2, 2, -2, 3, -2, 4, -2, 5, -2, 6, -2, 7, -2, 8, -2, 9, -2, 0, -6, -3);
+        tokensAre(ledger, 2, 1, -2, 999999999, 1, -2, 2, -2, 3,
+                -2, 4, -2, 5, -2, 6, -2, 7, -2, 8, -2, 9, -2, 0, -6, -3);
         tokensAre(ledger, 2, 2, -2, -2, -2, -2, 0);
         tokensAre(ledger, 7, 0, 0);
     }
