@@ -9,8 +9,10 @@ import java.util.regex.Pattern;
  * ModuleDescriptor.Version, with arguments from a fixed row of numbers: inputs, edges and wrong ones.
  */
 final class AgainstJavaTest {
-    private static final int RUNS = 600;
+    private static final int RUNS = 900;
+    /** What is asked of one object: the document promises nothing of later calls. */
     private static final int CALLS = 512;
+    private static final int MOST_CALLS_AT_ONCE = 4;
     private static final Pattern TOKEN = Pattern.compile("[0-9]+|[A-Za-z]+");
 
     private static long seed = 20261118L;
@@ -18,15 +20,18 @@ final class AgainstJavaTest {
     private final Releaseledger ledger = new Releaseledger();
     private final String[] slots = {"0", "0", "0", "0", "0", "0", "0", "0"};
     private String draft = "";
+    private int calls = 0;
 
     public static void main(String[] args) {
         for (int run = 0; run < RUNS; run++) {
             AgainstJavaTest each = new AgainstJavaTest();
             int wrongs = pick(12) == 0 ? 3 : 25;
-            for (int call = 0; call < CALLS; call++) {
+            while (each.calls + MOST_CALLS_AT_ONCE < CALLS) {
                 each.oneCall(pick(27), wrongs);
             }
-            each.sameState();
+            while (each.calls < CALLS) {
+                each.callChecksum();
+            }
         }
         Check.end("AgainstJavaTest");
     }
@@ -91,6 +96,7 @@ final class AgainstJavaTest {
         } catch (RuntimeException e) {
             due = e.getClass();
         }
+        calls++;
         Check.due(due, what, call);
     }
 
@@ -309,13 +315,18 @@ final class AgainstJavaTest {
     private void callSortOrWhole() {
         if (pick(4) == 0) {
             same("sort()", this::sorted, ledger::sort);
-            sameState();
+            callChecksum();
             return;
         }
         int slot = pick(8);
         same("isHashed(" + slot + ")", () -> true, () -> ledger.isHashed(slot));
         same("isTrue()", () -> true, ledger::isTrue);
         same("wordShare()", this::share, ledger::wordShare);
+        callChecksum();
+    }
+
+    /** Tells of the whole state by one call. */
+    private void callChecksum() {
         same("checksum()", this::sum, ledger::checksum);
     }
 
@@ -355,14 +366,6 @@ final class AgainstJavaTest {
             }
         }
         return sum;
-    }
-
-    private void sameState() {
-        Check.due(draft, "the draft", () -> Check.draft(ledger));
-        for (int slot = 0; slot < 8; slot++) {
-            int each = slot;
-            Check.due(slots[slot], "slot " + slot, () -> Check.told(ledger, each));
-        }
     }
 
     private void callZero(int slot, int to) {

@@ -28,11 +28,37 @@ final class Check {
         }
     }
 
+    static void taken(String what, Call call) {
+        due(true, what + " is taken", () -> {
+            call.answer();
+            return true;
+        });
+    }
+
     /** A call that throws changes nothing: all that is kept is the same behind it. */
     static void refused(Class<?> due, Releaseledger ledger, String what, Call call) {
-        String before = state(ledger);
+        String before = kept(ledger);
         due(due, what, call);
-        due(before, "the state behind the refused " + what, () -> state(ledger));
+        due(before, "what is kept behind the refused " + what, () -> kept(ledger));
+    }
+
+    /** By two calls alone: an object is used for at most 512 calls, and a test asks for no more. */
+    private static String kept(Releaseledger ledger) {
+        return ledger.checksum() + " " + ledger.wordShare();
+    }
+
+    /** One sentence of the document: a broken one is named, also where the test of it cannot go on. */
+    static void sentence(String sentence, Runnable test) {
+        int before = wrong;
+        try {
+            test.run();
+        } catch (RuntimeException e) {
+            wrong++;
+            System.out.println("its test ended with " + e);
+        }
+        if (wrong > before) {
+            System.out.println("broken: " + sentence);
+        }
     }
 
     static String state(Releaseledger ledger) {
@@ -58,7 +84,8 @@ final class Check {
 
     static String told(Releaseledger ledger, int slot) {
         StringBuilder signs = new StringBuilder();
-        for (int place = 0; place < ledger.size(slot); place++) {
+        int size = ledger.size(slot);
+        for (int place = 0; place < size; place++) {
             signs.append(ledger.text(slot, place));
         }
         return signs.toString();
@@ -69,6 +96,7 @@ final class Check {
         ledger.drop();
         int place = 0;
         while (place < text.length()) {
+            boolean first = place == 0;
             char how = 'n';
             if (".-+".indexOf(text.charAt(place)) >= 0) {
                 how = text.charAt(place);
@@ -80,19 +108,19 @@ final class Check {
                     && Character.isDigit(text.charAt(end)) == number) {
                 end++;
             }
-            writeToken(ledger, text.substring(place, end), how);
+            writeToken(ledger, text.substring(place, end), how, first);
             place = end;
         }
     }
 
-    private static void writeToken(Releaseledger ledger, String token, char how) {
+    private static void writeToken(Releaseledger ledger, String token, char how, boolean first) {
         if (!Character.isDigit(token.charAt(0))) {
             ledger.word(codeOf(token), token.length(), how);
             return;
         }
         int number = Integer.parseInt(token);
         int zeros = token.length() - Integer.toString(number).length();
-        if (draft(ledger).isEmpty()) {
+        if (first) {
             ledger.begin(number, zeros);
         } else {
             ledger.add(number, zeros, how);

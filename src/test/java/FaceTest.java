@@ -93,7 +93,8 @@ final class FaceTest {
         TreeSet<String> names = new TreeSet<>();
         for (Method method : ledger.getDeclaredMethods()) {
             for (Method other : ledger.getDeclaredMethods()) {
-                if (method != other && !method.equals(other) && method.getName().equals(other.getName())) {
+                if (Modifier.isPrivate(method.getModifiers()) && Modifier.isPublic(other.getModifiers())
+                        && method.getName().equals(other.getName())) {
                     names.add(method.getName());
                 }
             }
